@@ -119,10 +119,9 @@ public final class TrunkCells {
         if (draw < 0 || draw > HIGHEST_DRAW) {
             throw new IllegalArgumentException("a draw is 0 to 15");
         }
-        if (mobiles[mobile].drawCount >= MOST_DRAWS) {
+        if (!mobiles[mobile].addDraw(draw)) {
             throw new IllegalStateException("it has 8 draws");
         }
-        mobiles[mobile].addDraw(draw);
     }
 
     public void fault(int at, long places) throws IndexOutOfBoundsException {
@@ -486,6 +485,7 @@ public final class TrunkCells {
         private int block;
         private int tries;
         private int delay;
+        /** Whether it has been sent in this control slot, and is still there. */
         private boolean sent;
 
         boolean isThere() {
@@ -500,6 +500,7 @@ public final class TrunkCells {
             block = newBlock;
             tries = 0;
             delay = 0;
+            sent = false;
         }
 
         void drop() {
@@ -560,11 +561,14 @@ public final class TrunkCells {
             return state == aState && channel == aChannel;
         }
 
-        void addDraw(int draw) {
-            if (drawCount < MOST_DRAWS) {
-                draws[drawCount] = draw;
-                drawCount++;
+        /** Whether there was room for it. */
+        boolean addDraw(int draw) {
+            if (drawCount >= MOST_DRAWS) {
+                return false;
             }
+            draws[drawCount] = draw;
+            drawCount++;
+            return true;
         }
 
         private int takeDraw() {
@@ -584,9 +588,7 @@ public final class TrunkCells {
 
         /** After the cell has spoken: a message that was sent and not taken waits for another try. */
         void settleMessage() {
-            boolean failed = message.sent && message.isThere();
-            message.sent = false;
-            if (!failed) {
+            if (!message.sent) {
                 return;
             }
             message.tries++;

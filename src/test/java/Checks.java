@@ -1,5 +1,3 @@
-import java.util.function.IntSupplier;
-
 /** What all tests use: answers against those that are due, control blocks, and faults that make one block another. */
 final class Checks {
     static final int NONE = TrunkCells.NONE;
@@ -93,7 +91,7 @@ final class Checks {
         x.tick((4 - x.tick(0) % 4) % 4);
     }
 
-    /** One control slot, from the beginning of a frame to behind it, and then on to the next frame. */
+    /** A whole frame. */
     static void frame(TrunkCells x) {
         toFrame(x);
         x.tick(4);
@@ -110,13 +108,5 @@ final class Checks {
             }
         }
         return x;
-    }
-
-    static int sum(IntSupplier... parts) {
-        int all = 0;
-        for (IntSupplier part : parts) {
-            all += part.getAsInt();
-        }
-        return all;
     }
 }

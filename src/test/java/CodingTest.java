@@ -14,6 +14,7 @@ public final class CodingTest {
         decodedIsLostWhenTheCheckIsWrong();
         decodedMayBeAnotherBlock();
         nearestRowIsTheLeastOfSeveral();
+        answersHangOnNoEarlierCall();
         C.end();
     }
 
@@ -93,5 +94,17 @@ public final class CodingTest {
             found += X.decoded(burst, colour) == Checks.NONE ? 0 : 1;
         }
         C.due("some are found", found > 50 ? 1 : 0, 1);
+    }
+
+    private static void answersHangOnNoEarlierCall() {
+        Random random = new Random(20);
+        for (int i = 0; i < 300; i++) {
+            long burst = random.nextLong();
+            TrunkCells x = new TrunkCells();
+            int want = ModelCode.distance(burst, 1);
+            C.due("distance(" + burst + ", 1) as the first call", x.distance(burst, 1), want);
+            x.distance(x.coded(i, 2), 2);
+            C.due("distance(" + burst + ", 1) behind another", x.distance(burst, 1), want);
+        }
     }
 }

@@ -1,3 +1,5 @@
+import java.util.Random;
+
 /** Promises 2, 6, 8, 9, 11, 12 and 13 in the control slot: sending, tries and waits, TAKEN, registering, faults. */
 public final class ControlTest {
     private static final Checks C = new Checks("ControlTest");
@@ -10,12 +12,14 @@ public final class ControlTest {
         promise2RegisterHangsOnTheFrame();
         promise6RegisteredInOneCellAlone();
         promise11CollisionsWaitForTheirDraws();
+        promise11DrawsGoInTheirOrder();
         promise13FiveTriesAndNoMore();
         promise13MessageGoesInItsOwnCell();
         promise12CellFaultLosesTheMessage();
         promise12MobileFaultLosesTheTaken();
         promise12FaultIsReplacedAndEndsWithOneBurst();
         promise12OneFaultIsMended();
+        promise12EachPlaceCounts();
         promise13TakenIsForTheMobileThatWasDecoded();
         promise13TakenCountsOnlyForOneThatSent();
         promise13OtherKindsAreNotTaken();
@@ -143,6 +147,41 @@ public final class ControlTest {
         C.due("and keeps its draw", x.mobile(1, 12), 1);
     }
 
+    private static void promise11DrawsGoInTheirOrder() {
+        TrunkCells x = new TrunkCells();
+        int[] draws = {4, 0, 15, 2};
+        for (int draw : draws) {
+            x.draw(0, draw);
+        }
+        x.move(0, 0);
+        x.register(0);
+        for (int i = 0; i < draws.length; i++) {
+            x.fault(0, Checks.ALL_PLACES);
+            x.tick(4);
+            C.due("tries", x.mobile(0, 6), i + 1);
+            C.due("wait", x.mobile(0, 7), draws[i]);
+            C.due("draws", x.mobile(0, 12), draws.length - 1 - i);
+            x.tick(4 * draws[i]);
+            C.due("it has waited", x.mobile(0, 7), 0);
+        }
+        x.tick(4);
+        C.due("registered", x.mobile(0, 13), 0);
+        x.register(0);
+        C.due("wait of a new message", x.mobile(0, 7), 0);
+        TrunkCells y = new TrunkCells();
+        y.move(0, 0);
+        y.register(0);
+        y.draw(0, 9);
+        y.fault(0, Checks.ALL_PLACES);
+        y.tick(4);
+        y.move(0, 0);
+        C.due("moved away from its wait", y.mobile(0, 7), 0);
+        y.register(0);
+        C.due("tries of a new message", y.mobile(0, 6), 0);
+        y.tick(4);
+        C.due("registered at once", y.mobile(0, 13), 0);
+    }
+
     private static void promise13FiveTriesAndNoMore() {
         TrunkCells x = new TrunkCells();
         x.move(0, 0);
@@ -231,6 +270,36 @@ public final class ControlTest {
         x.tick(1);
         C.due("registered", x.mobile(0, 13), 0);
         C.due("taken", x.mobile(0, 5), 0);
+    }
+
+    private static void promise12EachPlaceCounts() {
+        int sent = Checks.block(Checks.DATA, 0, 0, 0, 9);
+        Random random = new Random(12);
+        for (int place = 0; place < 54; place++) {
+            // A fault that is mended without this place, and is one too many with it.
+            long mended;
+            do {
+                mended = 0;
+                for (int i = 0; i < 4; i++) {
+                    mended |= 1L << random.nextInt(54);
+                }
+                mended &= ~(1L << place);
+            } while (!isMended(sent, mended) || isMended(sent, mended | 1L << place));
+            C.due("mended", kindAfterFault(mended), 0);
+            C.due("not with place " + place, kindAfterFault(mended | 1L << place), Checks.DATA);
+        }
+    }
+
+    private static boolean isMended(int block, long fault) {
+        return ModelCode.decoded(ModelCode.coded(block, 1) ^ fault, 1) == block;
+    }
+
+    private static int kindAfterFault(long fault) {
+        TrunkCells x = Checks.withMobilesIn(0);
+        x.send(0, 0, 9);
+        x.fault(0, fault);
+        x.tick(1);
+        return x.mobile(0, 5);
     }
 
     private static void promise13TakenIsForTheMobileThatWasDecoded() {

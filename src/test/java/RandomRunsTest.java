@@ -9,16 +9,47 @@ public final class RandomRunsTest {
     private static final int RUNS = 120;
     private static final int CALLS = 500;
 
+    // What a step does is drawn from one of these rows, by the run's number.
+    private static final int KEYS = 0;
+    private static final int GROUP = 1;
+    private static final int MEMBER = 2;
+    private static final int MOVE = 3;
+    private static final int REGISTER = 4;
+    private static final int PRESS = 5;
+    private static final int RELEASE = 6;
+    private static final int SEND = 7;
+    private static final int SPEAK = 8;
+    private static final int DRAW = 9;
+    private static final int FAULT = 10;
+    private static final int TICK = 11;
+    private static final int FRAME = 12;
+    private static final int[] WILD = {KEYS, GROUP, MEMBER, MOVE, REGISTER, REGISTER, PRESS, PRESS, PRESS, PRESS, RELEASE,
+        RELEASE, SEND, SEND, SPEAK, DRAW, DRAW, FAULT, FAULT, FAULT, TICK, TICK, TICK, TICK};
+    private static final int[] CROWDED = {SPEAK, PRESS, PRESS, PRESS, PRESS, PRESS, PRESS, RELEASE, RELEASE, RELEASE,
+        RELEASE, FRAME, FRAME, FRAME, FRAME, FRAME};
+    private static final int[] CHATTY = {MOVE, REGISTER, PRESS, RELEASE, SEND, SEND, SEND, SEND, SEND, SEND, SEND, SEND,
+        SEND, SEND, DRAW, FAULT, FRAME, FRAME, FRAME};
+    private static final int[][] ROWS = {WILD, CROWDED, CHATTY};
+
+    // How often the runs have come where it is narrow: else they would prove little.
+    private static int fullRows;
+    private static int fullCells;
+    private static int groupsWithoutChannel;
+    private static int fourTries;
+    private static int twoTalkers;
+
     private final Random random;
     private final TrunkCells x = new TrunkCells();
     private final Model model = new Model();
     private final int run;
-    private final boolean lean;
+    private final int[] acts;
+    private final int favourite;
 
     private RandomRunsTest(int run) {
         this.run = run;
         random = new Random(run);
-        lean = run % 3 == 0;
+        acts = ROWS[run % ROWS.length];
+        favourite = random.nextInt(4);
     }
 
     public static void main(String[] args) {
@@ -27,9 +58,31 @@ public final class RandomRunsTest {
             test.begin();
             for (int i = 0; i < CALLS; i++) {
                 test.step();
+                test.count();
             }
         }
+        C.due("rows of six are seen", fullRows > 100 ? 1 : 0, 1);
+        C.due("cells with eight to say are seen", fullCells > 100 ? 1 : 0, 1);
+        C.due("groups that wait for a channel are seen", groupsWithoutChannel > 100 ? 1 : 0, 1);
+        C.due("fourth tries are seen", fourTries > 100 ? 1 : 0, 1);
+        C.due("two talkers on a channel are seen", twoTalkers > 100 ? 1 : 0, 1);
         C.end();
+    }
+
+    private void count() {
+        int talkers = 0;
+        for (int m = 0; m < 8; m++) {
+            fourTries += model.mobile(m, 6) == 4 ? 1 : 0;
+            talkers += model.mobile(m, 1) == 1 && model.mobile(m, 2) == 1 ? 1 : 0;
+        }
+        twoTalkers += talkers > 1 ? 1 : 0;
+        for (int g = 0; g < 4; g++) {
+            fullRows += model.call(g, 3) == 6 ? 1 : 0;
+            groupsWithoutChannel += model.call(g, 0) < 0 && model.call(g, 3) > 0 ? 1 : 0;
+        }
+        for (int c = 0; c < 3; c++) {
+            fullCells += model.saying(c, 7) >= 0 ? 1 : 0;
+        }
     }
 
     private void both(String call, Runnable ofProgram, Runnable ofModel) {
@@ -69,8 +122,8 @@ public final class RandomRunsTest {
     /** Mobiles in cells, and registered, so that runs have calls soon. */
     private void begin() {
         for (int m = 0; m < 8; m++) {
-            member(m, lean ? 1 << random.nextInt(4) | 1 << random.nextInt(4) : random.nextInt(16));
-            move(m, random.nextInt(3));
+            member(m, acts == CROWDED ? 15 : random.nextInt(16));
+            move(m, acts == CHATTY ? m % 3 : random.nextInt(3));
             both("register " + m, register(x, m), registerModel(m));
             tick(4);
         }
@@ -97,44 +150,51 @@ public final class RandomRunsTest {
     }
 
     private int someMobile() {
+        if (acts == CHATTY && random.nextInt(16) > 0) {
+            // One a cell, so that they do not send at once and all comes through.
+            return random.nextInt(3);
+        }
         return random.nextInt(200) == 0 ? random.nextInt(20) - 10 : random.nextInt(8);
     }
 
     private int someGroup() {
+        if (acts == CROWDED && run % 2 == 0 && random.nextInt(8) > 0) {
+            return favourite;
+        }
         return random.nextInt(100) == 0 ? random.nextInt(20) - 10 : random.nextInt(4);
+    }
+
+    private int someReceiver() {
+        return acts == CHATTY && random.nextInt(4) > 0 ? favourite : someMobile();
     }
 
     private void step() {
         int m = someMobile();
         int g = someGroup();
+        int to = someReceiver();
         int any = random.nextInt();
-        switch (random.nextInt(24)) {
-            case 0 -> both("keys", () -> x.keys(m, any, any % 8 == 0 ? 1 : any),
+        boolean seldom = random.nextInt(6) == 0;
+        switch (acts[random.nextInt(acts.length)]) {
+            case KEYS -> both("keys", () -> x.keys(m, any, any % 8 == 0 ? 1 : any),
                     () -> model.keys(m, any, any % 8 == 0 ? 1 : any));
-            case 1 -> both("group", () -> x.group(g, any), () -> model.grps[g].key = any);
-            case 2 -> {
-                if (random.nextInt(6) == 0) {
-                    member(m, any);
-                }
-            }
-            case 3 -> {
-                if (random.nextInt(4) == 0) {
+            case GROUP -> both("group", () -> x.group(g, any), () -> model.grps[g].key = any);
+            case MEMBER -> member(m, seldom ? any : 15);
+            case MOVE -> {
+                if (seldom) {
                     move(m, random.nextInt(12) == 0 ? random.nextInt(8) - 4 : random.nextInt(3));
                 }
             }
-            case 4, 5 -> both("register", register(x, m), registerModel(m));
-            case 6, 7, 8, 9 -> both("press " + m + " " + g, () -> x.press(m, g, any), () -> model.press(m, g, any));
-            case 10, 11 -> both("release " + m, () -> x.release(m), () -> model.release(m));
-            case 12, 13 -> {
-                int to = someMobile();
-                both("send", () -> x.send(m, to, any), () -> model.send(m, to, any));
-            }
-            case 14 -> both("speak", () -> x.speak(m, any), () -> model.mobs[m].speech = any & 524287);
-            case 15, 16 -> {
-                int draw = random.nextInt(40) == 0 ? any : random.nextInt(lean ? 3 : 16);
+            case REGISTER -> both("register", register(x, m), registerModel(m));
+            case PRESS -> both("press " + m + " " + g, () -> x.press(m, g, any), () -> model.press(m, g, any));
+            case RELEASE -> both("release " + m, () -> x.release(m), () -> model.release(m));
+            case SEND -> both("send", () -> x.send(m, to, any), () -> model.send(m, to, any));
+            case SPEAK -> both("speak", () -> x.speak(m, any), () -> model.mobs[m].speech = any & 524287);
+            case DRAW -> {
+                int draw = random.nextInt(40) == 0 ? any : random.nextInt(seldom ? 16 : 4);
                 both("draw", () -> x.draw(m, draw), () -> model.draw(m, draw));
             }
-            case 17, 18, 19 -> fault();
+            case FAULT -> fault();
+            case FRAME -> tick(4);
             default -> tick(random.nextInt(40) == 0 ? random.nextInt(220) - 5 : random.nextInt(9));
         }
     }

@@ -15,6 +15,7 @@ public final class SwitchTest {
         promise15FloorForEightFrames();
         promise15LowestFreeChannel();
         promise15FourthGroupWaitsForAChannel();
+        promise15AnyGroupMayBeTheFourth();
         promise13LongTurnsEndFromGroup0On();
         promise13GrantsAndMobiles();
         promise13CeaseMakesIdle();
@@ -208,6 +209,26 @@ public final class SwitchTest {
         C.due("GRANT behind it", x.saying(1, 1), Checks.block(Checks.GRANT, 4, 3, 2, 0));
         C.due("GRANT in cell 0", x.saying(0, 0), Checks.block(Checks.GRANT, 4, 3, 2, 0));
         C.due("none in cell 2", x.saying(2, 0), NONE);
+    }
+
+    private static void promise15AnyGroupMayBeTheFourth() {
+        for (int last = 0; last < 4; last++) {
+            TrunkCells x = Checks.withMobilesIn(0, 1, 2, 0);
+            for (int m = 0; m < 4; m++) {
+                x.member(m, 1 << (last + 1 + m) % 4);
+            }
+            for (int m = 0; m < 4; m++) {
+                press(x, m, (last + 1 + m) % 4, 0);
+            }
+            C.due("no channel for group " + last, x.call(last, 0), NONE);
+            C.due("it waits", x.waiting(last, 0), 12);
+            x.tick(4 * 4);
+            C.due("the first call has its time yet", x.call(last, 0), NONE);
+            x.tick(4);
+            C.dueRow("nobody waits", g -> x.call(g, 3), 0, 0, 0, 0);
+            C.due("channel 1 for group " + last, x.call(last, 0), 1);
+            C.due("holder", x.call(last, 1), 3);
+        }
     }
 
     private static void promise13LongTurnsEndFromGroup0On() {
