@@ -1,4 +1,9 @@
-/** What all tests use: answers against those that are due, control blocks, and faults that make one block another. */
+import java.util.function.Consumer;
+
+/**
+ * What all tests use: answers against those that are due, control blocks, faults that make one block another, and
+ * all that an object answers. An object is good for 512 calls, so no test asks one more often.
+ */
 final class Checks {
     static final int NONE = TrunkCells.NONE;
     static final int REGISTER = 1;
@@ -57,6 +62,15 @@ final class Checks {
         }
     }
 
+    /** All answers of stateOf against those that are due. */
+    void dueAnswers(String what, int[] got, int[] want) {
+        for (int i = 0; i < want.length; i++) {
+            if (got[i] != want[i]) {
+                due(what + ": " + question(i), got[i], want[i]);
+            }
+        }
+    }
+
     void end() {
         System.out.println(test + ": " + (wrong == 0 ? "all answers are as due" : wrong + " are not as due"));
         if (wrong != 0) {
@@ -66,6 +80,103 @@ final class Checks {
 
     interface IntToAnswer {
         long at(int i);
+    }
+
+    /** What a program or a model is asked for its state. */
+    interface Answers {
+        int mobile(int mobile, int what);
+
+        int call(int group, int what);
+
+        int waiting(int group, int k);
+
+        int saying(int cell, int k);
+
+        int time();
+    }
+
+    private static Answers answersOf(TrunkCells x) {
+        return new Answers() {
+            @Override
+            public int mobile(int mobile, int what) {
+                return x.mobile(mobile, what);
+            }
+
+            @Override
+            public int call(int group, int what) {
+                return x.call(group, what);
+            }
+
+            @Override
+            public int waiting(int group, int k) {
+                return x.waiting(group, k);
+            }
+
+            @Override
+            public int saying(int cell, int k) {
+                return x.saying(cell, k);
+            }
+
+            @Override
+            public int time() {
+                return x.tick(0);
+            }
+        };
+    }
+
+    private static final int OF_MOBILES = 8 * 14;
+    private static final int OF_CALLS = 4 * 4;
+    private static final int OF_ROWS = 4 * 6;
+    private static final int OF_CELLS = 3 * 8;
+    /** How many calls stateOf makes. */
+    static final int QUESTIONS = OF_MOBILES + OF_CALLS + OF_ROWS + OF_CELLS + 1;
+
+    /** All that can be seen of an object without changing it. */
+    static int[] stateOf(TrunkCells x) {
+        return stateOf(answersOf(x));
+    }
+
+    static int[] stateOf(Answers x) {
+        int[] all = new int[QUESTIONS];
+        int n = 0;
+        for (int i = 0; i < OF_MOBILES; i++) {
+            all[n++] = x.mobile(i / 14, i % 14);
+        }
+        for (int i = 0; i < OF_CALLS; i++) {
+            all[n++] = x.call(i / 4, i % 4);
+        }
+        for (int i = 0; i < OF_ROWS; i++) {
+            all[n++] = x.waiting(i / 6, i % 6);
+        }
+        for (int i = 0; i < OF_CELLS; i++) {
+            all[n++] = x.saying(i / 8, i % 8);
+        }
+        all[n] = x.time();
+        return all;
+    }
+
+    private static String question(int number) {
+        int i = number;
+        if (i < OF_MOBILES) {
+            return "mobile(" + i / 14 + ", " + i % 14 + ")";
+        }
+        i -= OF_MOBILES;
+        if (i < OF_CALLS) {
+            return "call(" + i / 4 + ", " + i % 4 + ")";
+        }
+        i -= OF_CALLS;
+        if (i < OF_ROWS) {
+            return "waiting(" + i / 6 + ", " + i % 6 + ")";
+        }
+        i -= OF_ROWS;
+        return i < OF_CELLS ? "saying(" + i / 8 + ", " + i % 8 + ")" : "time";
+    }
+
+    /** A new object with some calls behind it. */
+    static TrunkCells after(Consumer<TrunkCells> calls) {
+        TrunkCells x = new TrunkCells();
+        calls.accept(x);
+        return x;
     }
 
     static int block(int kind, int mobile, int group, int level, int rest) {

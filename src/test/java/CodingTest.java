@@ -3,7 +3,6 @@ import java.util.Random;
 /** Promises 18 to 20: coded, decoded, distance. */
 public final class CodingTest {
     private static final Checks C = new Checks("CodingTest");
-    private static final TrunkCells X = new TrunkCells();
 
     public static void main(String[] args) {
         codedAnswersTheDocumentsBurst();
@@ -18,64 +17,69 @@ public final class CodingTest {
         C.end();
     }
 
+    /** A new one for each call, but where a test says otherwise. */
+    private static TrunkCells x() {
+        return new TrunkCells();
+    }
+
     private static void codedAnswersTheDocumentsBurst() {
-        C.due("coded(0, 1)", X.coded(0, 1), 14086559603854720L);
-        C.due("coded(1048575, 1)", X.coded(1048575, 1), 11592670287821649L);
-        C.due("coded(74565, 3)", X.coded(74565, 3), 17491445942885414L);
+        C.due("coded(0, 1)", x().coded(0, 1), 14086559603854720L);
+        C.due("coded(1048575, 1)", x().coded(1048575, 1), 11592670287821649L);
+        C.due("coded(74565, 3)", x().coded(74565, 3), 17491445942885414L);
         Random random = new Random(18);
         for (int i = 0; i < 2000; i++) {
             int block = random.nextInt(1 << 20);
             int colour = i % 8;
-            C.due("coded(" + block + ", " + colour + ")", X.coded(block, colour), ModelCode.coded(block, colour));
+            C.due("coded(" + block + ", " + colour + ")", x().coded(block, colour), ModelCode.coded(block, colour));
         }
     }
 
     private static void codedTakesLowestBitsAlone() {
-        C.due("block above 20 bits", X.coded(5 + (1 << 20), 2), X.coded(5, 2));
-        C.due("block -1", X.coded(-1, 2), X.coded(1048575, 2));
-        C.due("colour 8", X.coded(5, 8), X.coded(5, 0));
-        C.due("colour -1", X.coded(5, -1), X.coded(5, 7));
+        C.due("block above 20 bits", x().coded(5 + (1 << 20), 2), x().coded(5, 2));
+        C.due("block -1", x().coded(-1, 2), x().coded(1048575, 2));
+        C.due("colour 8", x().coded(5, 8), x().coded(5, 0));
+        C.due("colour -1", x().coded(5, -1), x().coded(5, 7));
     }
 
     private static void decodedUndoesCoded() {
         for (int block = 0; block < 1 << 20; block += 511) {
-            long burst = X.coded(block, block % 8);
-            C.due("decoded of " + block, X.decoded(burst, block % 8), block);
-            C.due("distance of " + block, X.distance(burst, block % 8), 0);
+            long burst = x().coded(block, block % 8);
+            C.due("decoded of " + block, x().decoded(burst, block % 8), block);
+            C.due("distance of " + block, x().distance(burst, block % 8), 0);
         }
     }
 
     private static void decodedMendsFewFaults() {
         for (int place = 0; place < 54; place++) {
-            long burst = X.coded(777777, 3) ^ 1L << place;
-            C.due("decoded with place " + place + " turned", X.decoded(burst, 3), 777777);
-            C.due("distance with place " + place + " turned", X.distance(burst, 3), 1);
+            long burst = x().coded(777777, 3) ^ 1L << place;
+            C.due("decoded with place " + place + " turned", x().decoded(burst, 3), 777777);
+            C.due("distance with place " + place + " turned", x().distance(burst, 3), 1);
         }
     }
 
     private static void decodedTakesLowestBitsAlone() {
-        long burst = X.coded(4321, 6);
-        C.due("burst above 54 bits", X.decoded(burst | -1L << 54, 6), 4321);
-        C.due("distance above 54 bits", X.distance(burst | -1L << 54, 6), 0);
-        C.due("colour 14", X.decoded(burst, 14), 4321);
-        C.due("colour -2", X.decoded(burst, -2), 4321);
-        C.due("distance colour -2", X.distance(burst, -2), 0);
+        long burst = x().coded(4321, 6);
+        C.due("burst above 54 bits", x().decoded(burst | -1L << 54, 6), 4321);
+        C.due("distance above 54 bits", x().distance(burst | -1L << 54, 6), 0);
+        C.due("colour 14", x().decoded(burst, 14), 4321);
+        C.due("colour -2", x().decoded(burst, -2), 4321);
+        C.due("distance colour -2", x().distance(burst, -2), 0);
     }
 
     private static void decodedIsLostWhenTheCheckIsWrong() {
-        C.due("decoded(0, 1)", X.decoded(0, 1), Checks.NONE);
-        C.due("distance(0, 1)", X.distance(0, 1), 5);
-        C.due("decoded(123456789123, 5)", X.decoded(123456789123L, 5), Checks.NONE);
-        C.due("distance(123456789123, 5)", X.distance(123456789123L, 5), 7);
-        C.due("decoded(-1, 7)", X.decoded(-1, 7), Checks.NONE);
+        C.due("decoded(0, 1)", x().decoded(0, 1), Checks.NONE);
+        C.due("distance(0, 1)", x().distance(0, 1), 5);
+        C.due("decoded(123456789123, 5)", x().decoded(123456789123L, 5), Checks.NONE);
+        C.due("distance(123456789123, 5)", x().distance(123456789123L, 5), 7);
+        C.due("decoded(-1, 7)", x().decoded(-1, 7), Checks.NONE);
         long otherCheck = ModelCode.codedRow((long) 99 << 16 | (ModelCode.check(99) ^ 1) << 4, 2);
-        C.due("a check with one bit wrong", X.decoded(otherCheck, 2), Checks.NONE);
-        C.due("its distance, before the check", X.distance(otherCheck, 2), 0);
-        C.due("another cell's colour", X.decoded(X.coded(99, 1), 2), Checks.NONE);
+        C.due("a check with one bit wrong", x().decoded(otherCheck, 2), Checks.NONE);
+        C.due("its distance, before the check", x().distance(otherCheck, 2), 0);
+        C.due("another cell's colour", x().decoded(x().coded(99, 1), 2), Checks.NONE);
     }
 
     private static void decodedMayBeAnotherBlock() {
-        C.due("turned into another", X.decoded(X.coded(1, 4) ^ Checks.turning(1, 99999), 4), 99999);
+        C.due("turned into another", x().decoded(x().coded(1, 4) ^ Checks.turning(1, 99999), 4), 99999);
     }
 
     private static void nearestRowIsTheLeastOfSeveral() {
@@ -86,12 +90,12 @@ public final class CodingTest {
             long burst = random.nextLong();
             for (int k = 0; i % 2 == 0 && k < 6; k++) {
                 // Few faults on a true burst: there the check is right often enough to be seen.
-                burst = (k == 0 ? X.coded(random.nextInt(), colour) : burst) ^ 1L << random.nextInt(54);
+                burst = (k == 0 ? x().coded(random.nextInt(), colour) : burst) ^ 1L << random.nextInt(54);
             }
-            C.due("decoded(" + burst + ", " + colour + ")", X.decoded(burst, colour), ModelCode.decoded(burst, colour));
-            C.due("distance(" + burst + ", " + colour + ")", X.distance(burst, colour),
+            C.due("decoded(" + burst + ", " + colour + ")", x().decoded(burst, colour), ModelCode.decoded(burst, colour));
+            C.due("distance(" + burst + ", " + colour + ")", x().distance(burst, colour),
                     ModelCode.distance(burst, colour));
-            found += X.decoded(burst, colour) == Checks.NONE ? 0 : 1;
+            found += x().decoded(burst, colour) == Checks.NONE ? 0 : 1;
         }
         C.due("some are found", found > 50 ? 1 : 0, 1);
     }

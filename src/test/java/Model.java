@@ -4,7 +4,7 @@ import java.util.Deque;
 import java.util.List;
 
 /** The document once more, in its own order and with the library's lists, to hold the program against. */
-final class Model {
+final class Model implements Checks.Answers {
     static final class Mob {
         int cell = -1, own, known, groups, state, channel = -1, group = -1, press = -1, speech;
         int kind, msgGroup, msgLevel, msgRest, tries, wait, heard, lastHeard = -1, got, lastGot = -1, at = -1;
@@ -367,26 +367,35 @@ final class Model {
         }
     }
 
-    int mobile(int m, int what) {
+    @Override
+    public int mobile(int m, int what) {
         Mob o = mobs[m];
         int[] all = {o.cell, o.state, o.channel, o.group, o.press, o.kind, o.tries, o.wait, o.heard, o.lastHeard,
             o.got, o.lastGot, o.draws.size(), o.at};
         return what < 0 || what >= all.length ? -1 : all[what];
     }
 
-    int call(int group, int what) {
+    @Override
+    public int call(int group, int what) {
         Grp o = grps[group];
         int[] all = {o.channel, o.holder, o.since, o.row.size()};
         return what < 0 || what >= all.length ? -1 : all[what];
     }
 
-    int waiting(int group, int k) {
+    @Override
+    public int waiting(int group, int k) {
         List<int[]> row = grps[group].row;
         return k >= 0 && k < row.size() ? 4 * row.get(k)[0] + row.get(k)[1] : -1;
     }
 
-    int saying(int cell, int k) {
+    @Override
+    public int saying(int cell, int k) {
         List<Integer> say = says.get(cell);
         return k >= 0 && k < Math.min(8, say.size()) ? say.get(k) : -1;
+    }
+
+    @Override
+    public int time() {
+        return time;
     }
 }

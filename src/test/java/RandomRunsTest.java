@@ -1,13 +1,18 @@
+import java.util.ArrayList;
+import java.util.List;
 import java.util.Random;
+import java.util.function.Consumer;
 
 /**
- * Promises 1 to 17, all together: long runs of calls, drawn from fixed seeds, on the program and on the Model, with
- * the whole state looked at behind each call.
+ * Promises 1 to 17, all together: runs of calls, drawn from fixed seeds. The Model goes through a run once; then new
+ * objects go through its first calls, each one through some more of them, and are asked for their whole state.
  */
 public final class RandomRunsTest {
     private static final Checks C = new Checks("RandomRunsTest");
-    private static final int RUNS = 120;
-    private static final int CALLS = 500;
+    private static final int RUNS = 150;
+    // With the questions at the end an object stays below its 512 calls.
+    private static final int CALLS = 500 - Checks.QUESTIONS;
+    private static final int CALLS_BETWEEN_LOOKS = 3;
 
     // What a step does is drawn from one of these rows, by the run's number.
     private static final int KEYS = 0;
@@ -38,9 +43,13 @@ public final class RandomRunsTest {
     private static int fourTries;
     private static int twoTalkers;
 
+    /** A call, what it throws (null: nothing), and the state behind it. */
+    private record Step(String name, Consumer<TrunkCells> call, Class<? extends RuntimeException> want, int[] state) {
+    }
+
     private final Random random;
-    private final TrunkCells x = new TrunkCells();
     private final Model model = new Model();
+    private final List<Step> steps = new ArrayList<>();
     private final int run;
     private final int[] acts;
     private final int favourite;
@@ -56,9 +65,12 @@ public final class RandomRunsTest {
         for (int run = 0; run < RUNS; run++) {
             RandomRunsTest test = new RandomRunsTest(run);
             test.begin();
-            for (int i = 0; i < CALLS; i++) {
+            while (test.steps.size() < CALLS) {
                 test.step();
                 test.count();
+            }
+            for (int calls = 1 + run % CALLS_BETWEEN_LOOKS; calls <= CALLS; calls += CALLS_BETWEEN_LOOKS) {
+                test.replay(calls);
             }
         }
         C.due("rows of six are seen", fullRows > 100 ? 1 : 0, 1);
@@ -67,6 +79,22 @@ public final class RandomRunsTest {
         C.due("fourth tries are seen", fourTries > 100 ? 1 : 0, 1);
         C.due("two talkers on a channel are seen", twoTalkers > 100 ? 1 : 0, 1);
         C.end();
+    }
+
+    private void replay(int calls) {
+        TrunkCells x = new TrunkCells();
+        for (int i = 0; i < calls - 1; i++) {
+            try {
+                steps.get(i).call.accept(x);
+            } catch (RuntimeException e) {
+                // What it throws is looked at when it is a replay's last call.
+                continue;
+            }
+        }
+        Step last = steps.get(calls - 1);
+        String where = "run " + run + " call " + calls + " " + last.name;
+        C.dueThrow(where, last.want, () -> last.call.accept(x));
+        C.dueAnswers(where, Checks.stateOf(x), last.state);
     }
 
     private void count() {
@@ -85,38 +113,16 @@ public final class RandomRunsTest {
         }
     }
 
-    private void both(String call, Runnable ofProgram, Runnable ofModel) {
-        RuntimeException due = null;
+    private void both(String name, Consumer<TrunkCells> ofProgram, Runnable ofModel) {
+        Class<? extends RuntimeException> want = null;
         try {
             ofModel.run();
-        } catch (RuntimeException e) {
-            due = e;
-        }
-        Class<? extends RuntimeException> want = due == null ? null : due.getClass();
-        if (due instanceof IndexOutOfBoundsException) {
+        } catch (IndexOutOfBoundsException e) {
             want = IndexOutOfBoundsException.class;
+        } catch (RuntimeException e) {
+            want = e.getClass();
         }
-        C.dueThrow("run " + run + " " + call, want, ofProgram);
-        sameState("run " + run + " behind " + call);
-    }
-
-    private void sameState(String where) {
-        for (int m = 0; m < 8; m++) {
-            for (int what = 0; what < 14; what++) {
-                C.due(where + " mobile " + m + " " + what, x.mobile(m, what), model.mobile(m, what));
-            }
-        }
-        for (int g = 0; g < 4; g++) {
-            for (int k = 0; k < 7; k++) {
-                C.due(where + " call " + g + " " + k, x.call(g, k), model.call(g, k));
-                C.due(where + " waiting " + g + " " + k, x.waiting(g, k), model.waiting(g, k));
-            }
-        }
-        for (int c = 0; c < 3; c++) {
-            for (int k = 0; k < 9; k++) {
-                C.due(where + " saying " + c + " " + k, x.saying(c, k), model.saying(c, k));
-            }
-        }
+        steps.add(new Step(name, ofProgram, want, Checks.stateOf(model)));
     }
 
     /** Mobiles in cells, and registered, so that runs have calls soon. */
@@ -124,29 +130,26 @@ public final class RandomRunsTest {
         for (int m = 0; m < 8; m++) {
             member(m, acts == CROWDED ? 15 : random.nextInt(16));
             move(m, acts == CHATTY ? m % 3 : random.nextInt(3));
-            both("register " + m, register(x, m), registerModel(m));
+            register(m);
             tick(4);
         }
     }
 
-    private static Runnable register(TrunkCells x, int m) {
-        return () -> x.register(m);
-    }
-
-    private Runnable registerModel(int m) {
-        return () -> model.register(m);
+    private void register(int m) {
+        both("register " + m, x -> x.register(m), () -> model.register(m));
     }
 
     private void member(int m, int groups) {
-        both("member " + m, () -> x.member(m, groups), () -> model.mobs[m].groups = groups & 15);
+        both("member " + m, x -> x.member(m, groups), () -> model.mobs[m].groups = groups & 15);
     }
 
     private void move(int m, int cell) {
-        both("move " + m + " " + cell, () -> x.move(m, cell), () -> model.move(m, cell));
+        both("move " + m + " " + cell, x -> x.move(m, cell), () -> model.move(m, cell));
     }
 
     private void tick(int n) {
-        both("tick " + n, () -> C.due("tick", x.tick(n), model.time), () -> model.tick(n));
+        int due = model.time + n;
+        both("tick " + n, x -> C.due("tick", x.tick(n), due), () -> model.tick(n));
     }
 
     private int someMobile() {
@@ -175,23 +178,23 @@ public final class RandomRunsTest {
         int any = random.nextInt();
         boolean seldom = random.nextInt(6) == 0;
         switch (acts[random.nextInt(acts.length)]) {
-            case KEYS -> both("keys", () -> x.keys(m, any, any % 8 == 0 ? 1 : any),
+            case KEYS -> both("keys", x -> x.keys(m, any, any % 8 == 0 ? 1 : any),
                     () -> model.keys(m, any, any % 8 == 0 ? 1 : any));
-            case GROUP -> both("group", () -> x.group(g, any), () -> model.grps[g].key = any);
+            case GROUP -> both("group", x -> x.group(g, any), () -> model.grps[g].key = any);
             case MEMBER -> member(m, seldom ? any : 15);
             case MOVE -> {
                 if (seldom) {
                     move(m, random.nextInt(12) == 0 ? random.nextInt(8) - 4 : random.nextInt(3));
                 }
             }
-            case REGISTER -> both("register", register(x, m), registerModel(m));
-            case PRESS -> both("press " + m + " " + g, () -> x.press(m, g, any), () -> model.press(m, g, any));
-            case RELEASE -> both("release " + m, () -> x.release(m), () -> model.release(m));
-            case SEND -> both("send", () -> x.send(m, to, any), () -> model.send(m, to, any));
-            case SPEAK -> both("speak", () -> x.speak(m, any), () -> model.mobs[m].speech = any & 524287);
+            case REGISTER -> register(m);
+            case PRESS -> both("press " + m + " " + g, x -> x.press(m, g, any), () -> model.press(m, g, any));
+            case RELEASE -> both("release " + m, x -> x.release(m), () -> model.release(m));
+            case SEND -> both("send", x -> x.send(m, to, any), () -> model.send(m, to, any));
+            case SPEAK -> both("speak", x -> x.speak(m, any), () -> model.mobs[m].speech = any & 524287);
             case DRAW -> {
                 int draw = random.nextInt(40) == 0 ? any : random.nextInt(seldom ? 16 : 4);
-                both("draw", () -> x.draw(m, draw), () -> model.draw(m, draw));
+                both("draw", x -> x.draw(m, draw), () -> model.draw(m, draw));
             }
             case FAULT -> fault();
             case FRAME -> tick(4);
@@ -206,7 +209,7 @@ public final class RandomRunsTest {
             case 1 -> 1L << random.nextInt(60) ^ 1L << random.nextInt(54) ^ 1L << random.nextInt(54);
             default -> Checks.turning(likelyBlock(at), wildBlock());
         };
-        both("fault " + at + " " + places, () -> x.fault(at, places),
+        both("fault " + at + " " + places, x -> x.fault(at, places),
                 () -> model.faults[at] = places & Checks.ALL_PLACES);
     }
 
