@@ -189,6 +189,17 @@ final class Checks {
         return x.coded(from, 0) ^ x.coded(into, 0);
     }
 
+    /**
+     * A control slot in which one mobile (registered nowhere) has something taken, and another one in its cell
+     * decodes a block in place of that TAKEN.
+     */
+    static void hears(TrunkCells x, int sender, int mobile, int block) {
+        toFrame(x);
+        x.send(sender, sender, 0);
+        x.fault(3 + mobile, turning(block(TAKEN, sender, 0, 0, 0), block));
+        x.tick(1);
+    }
+
     static int mix(int k, int n) {
         long x = k & 0xFFFFFFFFL;
         for (int i = 0; i < 3; i++) {
