@@ -34,6 +34,7 @@ public final class CodingTest {
         }
     }
 
+    /** "a block (its lowest 20 bits) in a colour (its lowest 3 bits)" */
     private static void codedTakesLowestBitsAlone() {
         C.due("block above 20 bits", x().coded(5 + (1 << 20), 2), x().coded(5, 2));
         C.due("block -1", x().coded(-1, 2), x().coded(1048575, 2));
@@ -57,6 +58,7 @@ public final class CodingTest {
         }
     }
 
+    /** "the lowest 54 bits of a burst ... in a colour (its lowest 3 bits)" */
     private static void decodedTakesLowestBitsAlone() {
         long burst = x().coded(4321, 6);
         C.due("burst above 54 bits", x().decoded(burst | -1L << 54, 6), 4321);
@@ -66,6 +68,7 @@ public final class CodingTest {
         C.due("distance colour -2", x().distance(burst, -2), 0);
     }
 
+    /** "NONE if it is LOST" */
     private static void decodedIsLostWhenTheCheckIsWrong() {
         C.due("decoded(0, 1)", x().decoded(0, 1), Checks.NONE);
         C.due("distance(0, 1)", x().distance(0, 1), 5);
@@ -78,10 +81,12 @@ public final class CodingTest {
         C.due("another cell's colour", x().decoded(x().coded(99, 1), 2), Checks.NONE);
     }
 
+    /** "(A block may be another one than was sent.)" */
     private static void decodedMayBeAnotherBlock() {
         C.due("turned into another", x().decoded(x().coded(1, 4) ^ Checks.turning(1, 99999), 4), 99999);
     }
 
+    /** "(of several the least as a number)" */
     private static void nearestRowIsTheLeastOfSeveral() {
         Random random = new Random(19);
         int found = 0;
@@ -92,7 +97,8 @@ public final class CodingTest {
                 // Few faults on a true burst: there the check is right often enough to be seen.
                 burst = (k == 0 ? x().coded(random.nextInt(), colour) : burst) ^ 1L << random.nextInt(54);
             }
-            C.due("decoded(" + burst + ", " + colour + ")", x().decoded(burst, colour), ModelCode.decoded(burst, colour));
+            C.due("decoded(" + burst + ", " + colour + ")", x().decoded(burst, colour),
+                    ModelCode.decoded(burst, colour));
             C.due("distance(" + burst + ", " + colour + ")", x().distance(burst, colour),
                     ModelCode.distance(burst, colour));
             found += x().decoded(burst, colour) == Checks.NONE ? 0 : 1;

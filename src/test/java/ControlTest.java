@@ -29,6 +29,7 @@ public final class ControlTest {
         C.end();
     }
 
+    /** "TIME counts slots" */
     private static void promise13TickCountsSlots() {
         TrunkCells x = new TrunkCells();
         C.due("tick(0)", x.tick(0), 0);
@@ -49,6 +50,7 @@ public final class ControlTest {
         C.due("slot 0 is", y.mobile(0, 5), 0);
     }
 
+    /** "if REST is the lowest 9 bits of MIX(the key it has, frame), the mobile is REGISTERED in that cell" */
     private static void promise2RightKeyRegisters() {
         for (int key : new int[] {0, 1, -1, 123456789, Integer.MIN_VALUE}) {
             TrunkCells x = new TrunkCells();
@@ -61,6 +63,7 @@ public final class ControlTest {
         }
     }
 
+    /** "else nothing" */
     private static void promise2WrongKeyDoesNot() {
         TrunkCells x = new TrunkCells();
         x.keys(0, 1, 2);
@@ -80,6 +83,7 @@ public final class ControlTest {
         C.due("where it was before the key was wrong", x.mobile(0, 13), 2);
     }
 
+    /** "(REGISTER with this frame)" */
     private static void promise2RegisterHangsOnTheFrame() {
         int key = 4711;
         int frame = 3;
@@ -99,6 +103,7 @@ public final class ControlTest {
         C.due("TAKEN was for another", x.mobile(0, 5), Checks.REGISTER);
     }
 
+    /** "(and in no other)" */
     private static void promise6RegisteredInOneCellAlone() {
         TrunkCells x = Checks.withMobilesIn(0);
         x.move(0, 1);
@@ -113,6 +118,7 @@ public final class ControlTest {
         C.due("cell 1 has", x.saying(1, 0), Checks.block(Checks.GRANT, 0, 0, 1, 0));
     }
 
+    /** "If just one sends": two or more are no burst, and wait */
     private static void promise11CollisionsWaitForTheirDraws() {
         TrunkCells x = new TrunkCells();
         x.move(0, 0);
@@ -147,6 +153,7 @@ public final class ControlTest {
         C.due("and keeps its draw", x.mobile(1, 12), 1);
     }
 
+    /** "its wait is its first draw (which is gone then)" */
     private static void promise11DrawsGoInTheirOrder() {
         TrunkCells x = new TrunkCells();
         int[] draws = {4, 0, 15, 2};
@@ -182,6 +189,7 @@ public final class ControlTest {
         C.due("registered at once", y.mobile(0, 13), 0);
     }
 
+    /** "at 5 the message is gone (it may press on)" */
     private static void promise13FiveTriesAndNoMore() {
         TrunkCells x = new TrunkCells();
         x.move(0, 0);
@@ -205,6 +213,7 @@ public final class ControlTest {
         C.dueRow("a new message", i -> x.mobile(0, 5 + i), Checks.REGISTER, 0, 0);
     }
 
+    /** "The mobiles in the cell that have a message" */
     private static void promise13MessageGoesInItsOwnCell() {
         TrunkCells x = new TrunkCells();
         for (int m = 0; m < 3; m++) {
@@ -215,6 +224,7 @@ public final class ControlTest {
         C.dueRow("no collision between cells", m -> x.mobile(m, 13), 2, 1, 0);
     }
 
+    /** "FAULTS: for each cell": what is lost is not taken */
     private static void promise12CellFaultLosesTheMessage() {
         TrunkCells x = new TrunkCells();
         x.move(0, 1);
@@ -227,6 +237,7 @@ public final class ControlTest {
         C.due("registered then", x.mobile(0, 13), 1);
     }
 
+    /** "and for each mobile": it decodes nothing, and sends once more */
     private static void promise12MobileFaultLosesTheTaken() {
         TrunkCells x = new TrunkCells();
         x.move(7, 0);
@@ -239,6 +250,7 @@ public final class ControlTest {
         C.due("it sends once more", x.mobile(7, 5), 0);
     }
 
+    /** "places at which the next burst it gets is turned about; then it is 0" */
     private static void promise12FaultIsReplacedAndEndsWithOneBurst() {
         TrunkCells x = new TrunkCells();
         x.move(0, 0);
@@ -261,6 +273,7 @@ public final class ControlTest {
         C.due("and hurts no other", x.mobile(2, 13), 0);
     }
 
+    /** "the one whose burst is unlike them at the fewest places" */
     private static void promise12OneFaultIsMended() {
         TrunkCells x = new TrunkCells();
         x.move(0, 0);
@@ -272,6 +285,7 @@ public final class ControlTest {
         C.due("taken", x.mobile(0, 5), 0);
     }
 
+    /** "a pattern of 54 bits" */
     private static void promise12EachPlaceCounts() {
         int sent = Checks.block(Checks.DATA, 0, 0, 0, 9);
         Random random = new Random(12);
@@ -302,6 +316,7 @@ public final class ControlTest {
         return x.mobile(0, 5);
     }
 
+    /** "TAKEN for its MOBILE": that of the block that was decoded */
     private static void promise13TakenIsForTheMobileThatWasDecoded() {
         TrunkCells x = Checks.withMobilesIn(0, 0);
         int sent = Checks.block(Checks.DATA, 0, 0, 1, 77);
@@ -314,6 +329,7 @@ public final class ControlTest {
         C.due("data came", x.mobile(0, 11), 16 * 78 + 1);
     }
 
+    /** "its message is gone (if it sent in this slot)" */
     private static void promise13TakenCountsOnlyForOneThatSent() {
         TrunkCells x = Checks.withMobilesIn(0, 0);
         x.register(1);
@@ -331,6 +347,7 @@ public final class ControlTest {
         C.due("only KIND and MOBILE of TAKEN count", x.mobile(1, 5), 0);
     }
 
+    /** "and its kind is 1 to 3" */
     private static void promise13OtherKindsAreNotTaken() {
         for (int kind : new int[] {0, 4, 8, 9, 10, 11, 15}) {
             TrunkCells x = Checks.withMobilesIn(0);
@@ -343,6 +360,7 @@ public final class ControlTest {
         }
     }
 
+    /** "Others are from a mobile that is registered in that cell, or nothing comes of them." */
     private static void promise9DataNeedsBothRegistered() {
         TrunkCells x = Checks.withMobilesIn(0, 1);
         x.move(2, 0);
@@ -370,6 +388,7 @@ public final class ControlTest {
                 Checks.block(Checks.DATA_DOWN, 1, 0, 0, 6));
     }
 
+    /** "the cell in which the one that it is for is registered, if any" */
     private static void promise9DataForNobody() {
         for (int to = 8; to < 16; to++) {
             TrunkCells x = Checks.withMobilesIn(0);
@@ -389,6 +408,7 @@ public final class ControlTest {
         C.due("from 14", y.mobile(0, 11), 16 * 511 + 14);
     }
 
+    /** "(at most 8; what is more is left out, the last ones)" */
     private static void promise17AtMostEightToSay() {
         // Cells 1 and 2 each hand a block a frame to cell 0, and so does cell 0: it says one and gets three.
         TrunkCells x = Checks.withMobilesIn(0, 1, 2);

@@ -23,6 +23,7 @@ public final class FaceTest {
         C.end();
     }
 
+    /** "All is as told; time is 0, nobody is registered." */
     private static void promise1NewObject() {
         TrunkCells x = new TrunkCells();
         C.due("NONE", TrunkCells.NONE, -1);
@@ -42,6 +43,7 @@ public final class FaceTest {
         }
     }
 
+    /** "keys and what is spoken are 0" */
     private static void promise1AllKeysAndSpeechAre0() {
         TrunkCells x = new TrunkCells();
         x.move(3, 1);

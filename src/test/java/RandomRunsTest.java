@@ -28,8 +28,8 @@ public final class RandomRunsTest {
     private static final int FAULT = 10;
     private static final int TICK = 11;
     private static final int FRAME = 12;
-    private static final int[] WILD = {KEYS, GROUP, MEMBER, MOVE, REGISTER, REGISTER, PRESS, PRESS, PRESS, PRESS, RELEASE,
-        RELEASE, SEND, SEND, SPEAK, DRAW, DRAW, FAULT, FAULT, FAULT, TICK, TICK, TICK, TICK};
+    private static final int[] WILD = {KEYS, GROUP, MEMBER, MOVE, REGISTER, REGISTER, PRESS, PRESS, PRESS, PRESS,
+        RELEASE, RELEASE, SEND, SEND, SPEAK, DRAW, DRAW, FAULT, FAULT, FAULT, TICK, TICK, TICK, TICK};
     private static final int[] CROWDED = {SPEAK, PRESS, PRESS, PRESS, PRESS, PRESS, PRESS, RELEASE, RELEASE, RELEASE,
         RELEASE, FRAME, FRAME, FRAME, FRAME, FRAME};
     private static final int[] CHATTY = {MOVE, REGISTER, PRESS, RELEASE, SEND, SEND, SEND, SEND, SEND, SEND, SEND, SEND,

@@ -257,6 +257,7 @@ public final class RefusalsTest {
         }
     }
 
+    /** "IndexOutOfBoundsException also for another cell." */
     private static void promise5MoveToAnotherCell() {
         for (int cell : WRONG_CELLS) {
             for (int m : new int[] {TALKER, WAITER, WITH_REGISTER, WITH_REQUEST, WITH_DATA, OFF}) {
@@ -271,10 +272,12 @@ public final class RefusalsTest {
         }
     }
 
+    /** "IllegalStateException: it is off ..." */
     private static void promise6RegisterWhenOff() {
         refused("register when off", STATE, x -> x.register(OFF));
     }
 
+    /** "... or has one." */
     private static void promise6RegisterWithAMessage() {
         for (int m : new int[] {WITH_REGISTER, WITH_REQUEST, WITH_DATA}) {
             refused("register(" + m + ") with a message", STATE, x -> x.register(m));
@@ -293,16 +296,19 @@ public final class RefusalsTest {
         }
     }
 
+    /** "IllegalStateException: it is off ..." */
     private static void promise7PressWhenOff() {
         refused("press when off", STATE, x -> x.press(OFF, 0, 0));
     }
 
+    /** "... has one ..." */
     private static void promise7PressWithAMessage() {
         for (int m : new int[] {WITH_REGISTER, WITH_DATA}) {
             refused("press(" + m + ", 1, 1) with a message", STATE, x -> x.press(m, 1, 1));
         }
     }
 
+    /** "... or presses for one." */
     private static void promise7PressWhilePressing() {
         refused("press for another group, as a talker", STATE, x -> x.press(TALKER, 1, 1));
         refused("press for the same group, as a talker", STATE, x -> x.press(TALKER, 0, 1));
@@ -335,10 +341,12 @@ public final class RefusalsTest {
         }
     }
 
+    /** "IllegalStateException: it is off ..." */
     private static void promise9SendWhenOff() {
         refused("send when off", STATE, x -> x.send(OFF, 0, 1));
     }
 
+    /** "... or has one." */
     private static void promise9SendWithAMessage() {
         for (int m : new int[] {WITH_REGISTER, WITH_REQUEST, WITH_DATA}) {
             refused("send(" + m + ", 0, 1) with a message", STATE, x -> x.send(m, 0, 1));
@@ -381,18 +389,21 @@ public final class RefusalsTest {
         }
     }
 
+    /** "IllegalArgumentException: it is not 0 .. 15" */
     private static void promise11DrawTooSmallOrTooLarge() {
         for (int draw : new int[] {-1, 16, Integer.MIN_VALUE, Integer.MAX_VALUE}) {
             refused("draw(3, " + draw + ")", ARGUMENT, x -> x.draw(WITH_REQUEST, draw));
         }
     }
 
+    /** "IllegalStateException: it has 8." */
     private static void promise11DrawWhenItHasEight() {
         for (int draw : new int[] {0, 9, 15}) {
             refused("draw(5, " + draw + ")", STATE, x -> x.draw(WITH_EIGHT_DRAWS, draw));
         }
     }
 
+    /** "a cell (0 .. 2) or mobile (3 .. 10: 0 .. 7)" */
     private static void promise12FaultOfNobody() {
         for (int at : new int[] {-1, 11, Integer.MIN_VALUE, Integer.MAX_VALUE}) {
             refused("fault(" + at + ", 0)", INDEX, x -> x.fault(at, 0));
@@ -400,16 +411,19 @@ public final class RefusalsTest {
         }
     }
 
+    /** "IllegalArgumentException: n is not 0 .. 200" */
     private static void promise13TickTooSmallOrTooLarge() {
         for (int n : new int[] {-1, 201, Integer.MIN_VALUE, Integer.MAX_VALUE}) {
             refused("tick(" + n + ")", ARGUMENT, x -> x.tick(n));
         }
     }
 
+    /** "n slots more": with n 0 nothing happens */
     private static void promise13TickOfNone() {
         refused("tick(0)", null, x -> x.tick(0));
     }
 
+    /** Questions answer, in and out of their bounds, and do no more. */
     private static void promises14To20AskingChangesNothing() {
         refused("asking", null, x -> {
             for (int i : new int[] {Integer.MIN_VALUE, -1, 0, 4, 8, Integer.MAX_VALUE}) {

@@ -4,18 +4,28 @@ public final class SwitchTest {
     private static final int NONE = Checks.NONE;
 
     public static void main(String[] args) {
+        promise6RegisterWithAnotherRest();
+        promise6RegisteredInOneCellAlone();
         promise4OnlyMembersComeIntoTheRow();
         promise4GroupsAreFourBits();
         promise4CellsWithMembersAreTold();
+        promise4NoMemberIsRegistered();
         promise7RequestNeedsRegistering();
         promise7NobodyIsInARowTwice();
         promise7HolderDoesNotWait();
+        promise7RequestDuringACall();
         promise16RowHasSix();
+        promise16RoomAgainInTheRow();
         promise16FirstOfTheHighestPriority();
+        promise16FirstOfEachPriority();
         promise15FloorForEightFrames();
+        promise15FloorFromEachSlotOn();
+        promise15EachCallHasItsOwnTime();
+        promise15NobodyWaits();
         promise15LowestFreeChannel();
         promise15FourthGroupWaitsForAChannel();
         promise15AnyGroupMayBeTheFourth();
+        promise15OtherCallsGoOn();
         promise13LongTurnsEndFromGroup0On();
         promise13GrantsAndMobiles();
         promise13CeaseMakesIdle();
@@ -37,6 +47,44 @@ public final class SwitchTest {
         x.tick(4);
     }
 
+    /** "if REST is the lowest 9 bits of MIX(the key it has, frame) ..., else nothing" */
+    private static void promise6RegisterWithAnotherRest() {
+        for (int bit = 0; bit < 9; bit++) {
+            TrunkCells x = Checks.withMobilesIn(0);
+            x.move(0, 1);
+            x.register(0);
+            int frame = x.tick(0) / 4;
+            int sent = Checks.block(Checks.REGISTER, 0, 0, 0, Checks.mix(0, frame) % 512);
+            x.fault(1, Checks.turning(sent, sent ^ 1 << bit));
+            x.tick(4);
+            C.due("taken", x.mobile(0, 5), 0);
+            C.due("but with bit " + bit + " turned it is where it was", x.mobile(0, 13), 0);
+        }
+    }
+
+    /** "REGISTERED in that cell (and in no other)" */
+    private static void promise6RegisteredInOneCellAlone() {
+        TrunkCells x = Checks.withMobilesIn(0, 1);
+        x.member(0, 1);
+        for (int cell : new int[] {1, 2, 2, 0, 1}) {
+            x.move(0, cell);
+            x.register(0);
+            x.tick(4);
+            C.due("registered", x.mobile(0, 13), cell);
+            x.press(0, 0, 0);
+            x.tick(1);
+            for (int c = 0; c < 3; c++) {
+                int due = c == cell ? Checks.block(Checks.GRANT, 0, 0, 1, 0) : NONE;
+                C.due("GRANT in cell " + c + ", registered in " + cell, x.saying(c, 0), due);
+            }
+            x.tick(7);
+            x.release(0);
+            x.tick(8);
+            C.due("no call", x.call(0, 0), NONE);
+        }
+    }
+
+    /** "REQUEST, of a member of the group" */
     private static void promise4OnlyMembersComeIntoTheRow() {
         TrunkCells x = Checks.withMobilesIn(0, 0);
         x.member(0, 2);
@@ -49,6 +97,7 @@ public final class SwitchTest {
         C.due("the call goes on", x.call(1, 1), 0);
     }
 
+    /** "as the lowest 4 bits" */
     private static void promise4GroupsAreFourBits() {
         for (int group = 0; group < 4; group++) {
             TrunkCells x = Checks.withMobilesIn(0);
@@ -62,6 +111,7 @@ public final class SwitchTest {
         }
     }
 
+    /** "every cell in which a member is registered has GRANT to say" */
     private static void promise4CellsWithMembersAreTold() {
         TrunkCells x = Checks.withMobilesIn(0, 1, 2);
         x.member(0, 8);
@@ -84,6 +134,24 @@ public final class SwitchTest {
         C.due("no member in cell 2 any more", x.saying(2, 0), NONE);
     }
 
+    /** "every cell in which a member is registered": there may be none */
+    private static void promise4NoMemberIsRegistered() {
+        TrunkCells x = membersOfAll(0, 1);
+        press(x, 0, 0, 0);
+        press(x, 1, 0, 0);
+        x.tick(8);
+        x.member(0, 14);
+        x.member(1, 14);
+        x.release(0);
+        x.tick(4);
+        C.dueRow("the one that waits becomes holder", what -> x.call(0, what), 1, 1, x.tick(0) / 4 - 1, 0);
+        C.dueRow("no cell has GRANT to say", cell -> x.saying(cell, 0), NONE, NONE, NONE);
+        x.tick(4 * 8);
+        C.due("the call has ended", x.call(0, 0), NONE);
+        C.dueRow("no cell has CEASE to say", cell -> x.saying(cell, 0), NONE, NONE, NONE);
+    }
+
+    /** "Others are from a mobile that is registered in that cell, or nothing comes of them." */
     private static void promise7RequestNeedsRegistering() {
         TrunkCells x = new TrunkCells();
         x.member(0, 1);
@@ -98,6 +166,7 @@ public final class SwitchTest {
         C.due("registered in another cell", y.call(0, 0), NONE);
     }
 
+    /** "if it is neither in it ..." */
     private static void promise7NobodyIsInARowTwice() {
         TrunkCells x = membersOfAll(0, 0);
         press(x, 0, 0, 0);
@@ -111,6 +180,7 @@ public final class SwitchTest {
         C.due("in another group's too", x.call(2, 1), 1);
     }
 
+    /** "... nor holder of the call" */
     private static void promise7HolderDoesNotWait() {
         TrunkCells x = membersOfAll(0, 0);
         press(x, 0, 0, 0);
@@ -121,6 +191,17 @@ public final class SwitchTest {
         C.due("its row", x.call(0, 3), 0);
     }
 
+    /** "then, if the group has no call, it is SERVED" */
+    private static void promise7RequestDuringACall() {
+        TrunkCells x = membersOfAll(0, 0);
+        int frame = x.tick(0) / 4;
+        press(x, 0, 0, 0);
+        press(x, 1, 0, 3);
+        C.dueRow("even the highest priority waits", what -> x.call(0, what), 1, 0, frame, 1);
+        C.due("waits", x.waiting(0, 0), 7);
+    }
+
+    /** "and there are fewer than 6 in it" */
     private static void promise16RowHasSix() {
         TrunkCells x = membersOfAll(0, 0, 0, 0, 0, 0, 0, 0);
         int since = x.tick(0) / 4;
@@ -137,6 +218,26 @@ public final class SwitchTest {
         C.dueRow("in the order in which they came", k -> x.waiting(1, k), 4, 8, 12, 16, 20, 24, NONE);
     }
 
+    /** "and there are fewer than 6 in it": the next holder "leaves the row" */
+    private static void promise16RoomAgainInTheRow() {
+        TrunkCells x = membersOfAll(0, 0, 0, 0, 0, 0, 0, 0);
+        for (int m = 0; m < 7; m++) {
+            press(x, m, 1, m == 3 ? 1 : 0);
+        }
+        press(x, 7, 1, 3);
+        C.due("six in the row", x.call(1, 3), 6);
+        x.tick(4);
+        C.due("3 is the next holder", x.call(1, 1), 3);
+        C.dueRow("and has left the row", k -> x.waiting(1, k), 4, 8, 16, 20, 24, NONE);
+        x.release(7);
+        press(x, 7, 1, 3);
+        C.dueRow("the sixth is the last", k -> x.waiting(1, k), 4, 8, 16, 20, 24, 31, NONE);
+        x.release(0);
+        press(x, 0, 1, 3);
+        C.due("no room for a seventh", x.call(1, 3), 6);
+    }
+
+    /** "the first of the highest priority becomes HOLDER" */
     private static void promise16FirstOfTheHighestPriority() {
         TrunkCells x = membersOfAll(0, 0, 0, 0, 0);
         press(x, 0, 0, 3);
@@ -154,6 +255,25 @@ public final class SwitchTest {
         C.due("no call", x.call(0, 0), NONE);
     }
 
+    /** "the first of the highest priority": of several with the same one, be it the lowest or the highest */
+    private static void promise16FirstOfEachPriority() {
+        for (int priority = 0; priority < 4; priority++) {
+            TrunkCells x = membersOfAll(0, 0, 0, 0, 0);
+            press(x, 4, 0, 0);
+            press(x, 3, 0, Math.max(0, priority - 1));
+            press(x, 2, 0, priority);
+            press(x, 0, 0, priority);
+            press(x, 1, 0, priority);
+            x.tick(4 * 4);
+            int[] due = priority == 0 ? new int[] {3, 2, 0, 1} : new int[] {2, 0, 1, 3};
+            for (int holder : due) {
+                C.due("holder by priority " + priority, x.call(0, 1), holder);
+                x.tick(32);
+            }
+        }
+    }
+
+    /** "whose holder has had the floor for 8 frames (or more) is RELEASED" */
     private static void promise15FloorForEightFrames() {
         TrunkCells x = membersOfAll(0, 0);
         int frame = x.tick(0) / 4;
@@ -173,6 +293,65 @@ public final class SwitchTest {
         C.due("CEASE", x.saying(0, 0), Checks.block(Checks.CEASE, 0, 2, 1, 0));
     }
 
+    /** "has the floor from this frame on", in whatever slot of it */
+    private static void promise15FloorFromEachSlotOn() {
+        for (int slot = 1; slot <= 3; slot++) {
+            // Mobiles 0 to 2 talk on channels 1 to 3, and mobile 3 waits for one of them, which lets go.
+            int group = slot - 1;
+            TrunkCells x = Checks.withMobilesIn(0, 1, 2, 0);
+            for (int m = 0; m < 3; m++) {
+                x.member(m, 1 << m);
+                x.press(m, m, 0);
+            }
+            x.member(3, 1 << group);
+            x.tick(4);
+            press(x, 3, group, 0);
+            x.tick(4);
+            x.release(group);
+            int frame = x.tick(0) / 4;
+            x.tick(slot + 1);
+            C.dueRow("handed on in slot " + slot, what -> x.call(group, what), slot, 3, frame, 0);
+            x.tick(4 * 9 - slot - 2);
+            C.due("before the end of slot 3", x.call(group, 1), 3);
+            x.tick(1);
+            C.due("at its end", x.call(group, 1), NONE);
+        }
+    }
+
+    /** "each call ... whose holder has had the floor for 8 frames" */
+    private static void promise15EachCallHasItsOwnTime() {
+        TrunkCells x = membersOfAll(0, 0, 0);
+        int frame = x.tick(0) / 4;
+        for (int m = 0; m < 3; m++) {
+            press(x, m, m, 0);
+        }
+        C.dueRow("frames", g -> x.call(g, 2), frame, frame + 1, frame + 2);
+        x.tick(4 * 5);
+        for (int ended = 0; ended <= 3; ended++) {
+            for (int g = 0; g < 3; g++) {
+                C.due(ended + " have ended; call of group " + g, x.call(g, 1), g < ended ? NONE : g);
+            }
+            x.tick(4);
+        }
+    }
+
+    /** "A group is SERVED, if somebody is in its row": "If its row is empty, the call ends" */
+    private static void promise15NobodyWaits() {
+        TrunkCells x = membersOfAll(0, 1);
+        press(x, 0, 2, 3);
+        x.tick(4);
+        x.release(0);
+        x.tick(4);
+        C.dueRow("the call has ended", what -> x.call(2, what), NONE, NONE, NONE, 0);
+        C.due("CEASE, and no GRANT", x.saying(0, 0), Checks.block(Checks.CEASE, 0, 2, 1, 0));
+        C.due("no more", x.saying(0, 1), NONE);
+        x.tick(80);
+        C.dueRow("no call comes of itself", g -> x.call(g, 0), NONE, NONE, NONE, NONE);
+        press(x, 1, 3, 0);
+        C.due("channel 1 is free again", x.call(3, 0), 1);
+    }
+
+    /** "the call begins with the lowest such one" */
     private static void promise15LowestFreeChannel() {
         TrunkCells x = membersOfAll(0, 0, 0, 0);
         press(x, 0, 3, 0);
@@ -188,6 +367,7 @@ public final class SwitchTest {
         C.due("and given", x.call(0, 0), 2);
     }
 
+    /** "or a channel (1, 2, 3) is of no call": "then, from 0 on, each group without a call is served" */
     private static void promise15FourthGroupWaitsForAChannel() {
         TrunkCells x = Checks.withMobilesIn(0, 1, 2, 0, 1);
         x.member(0, 1);
@@ -211,6 +391,7 @@ public final class SwitchTest {
         C.due("none in cell 2", x.saying(2, 0), NONE);
     }
 
+    /** "from 0 on, each group without a call is served" */
     private static void promise15AnyGroupMayBeTheFourth() {
         for (int last = 0; last < 4; last++) {
             TrunkCells x = Checks.withMobilesIn(0, 1, 2, 0);
@@ -231,6 +412,27 @@ public final class SwitchTest {
         }
     }
 
+    /** "each group without a call is served": no other, though somebody be in its row */
+    private static void promise15OtherCallsGoOn() {
+        for (int ended = 0; ended < 2; ended++) {
+            TrunkCells x = membersOfAll(0, 1, 2);
+            x.member(0, 1);
+            x.member(1, 2);
+            x.member(2, 3);
+            int frame = x.tick(0) / 4;
+            x.press(0, 0, 0);
+            x.press(1, 1, 0);
+            x.tick(8);
+            int other = 1 - ended;
+            press(x, 2, other, 3);
+            x.release(ended);
+            x.tick(4);
+            C.due("the call of group " + ended + " has ended", x.call(ended, 0), NONE);
+            C.dueRow("the other goes on", what -> x.call(other, what), other + 1, other, frame, 1);
+        }
+    }
+
+    /** "each call, from group 0 on" */
     private static void promise13LongTurnsEndFromGroup0On() {
         TrunkCells x = Checks.withMobilesIn(0, 1, 2, 0);
         x.member(0, 1);
@@ -268,6 +470,7 @@ public final class SwitchTest {
         return x;
     }
 
+    /** "GRANT of a group of which it is a member: if it is MOBILE and presses for that group ...; else, if ..." */
     private static void promise13GrantsAndMobiles() {
         TrunkCells x = hearing();
         hears(x, 0, Checks.block(Checks.GRANT, 3, 3, 1, 0));
@@ -288,6 +491,7 @@ public final class SwitchTest {
         C.due("it presses on", x.mobile(0, 4), 2);
     }
 
+    /** "CEASE of the group in whose call it is: it is idle." */
     private static void promise13CeaseMakesIdle() {
         TrunkCells x = hearing();
         hears(x, 0, Checks.block(Checks.GRANT, 5, 1, 2, 0));

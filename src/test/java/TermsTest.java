@@ -29,6 +29,7 @@ public final class TermsTest {
         fullCellLeavesOutTheLast();
         cellSpeaksToNobody();
         cellSpeaksInItsCellAlone();
+        silentCell();
         fifthTryIsTheLast();
         drawOrOneWithout();
         channelZeroIsNone();
@@ -333,7 +334,6 @@ public final class TermsTest {
     private static void noneOneOrMoreSend() {
         for (int senders = 0; senders <= 8; senders++) {
             TrunkCells x = new TrunkCells();
-            x.fault(1, Checks.turning(Checks.block(Checks.REGISTER, 0, 0, 0, 0), Checks.block(Checks.DATA, 0, 0, 0, 0)));
             for (int m = 0; m < senders; m++) {
                 x.move(m, 0);
                 x.register(m);
@@ -463,6 +463,16 @@ public final class TermsTest {
         x.member(3, 1);
         x.tick(4);
         C.dueRow("only those in cell 1 know of the call", m -> x.mobile(m, 1), 0, 1, 2, 0);
+    }
+
+    /** "If the cell has something to say": if it has not, no mobile gets a burst, and faults are kept */
+    private static void silentCell() {
+        TrunkCells x = Checks.withMobilesIn(0, 0);
+        x.fault(3, Checks.ALL_PLACES);
+        x.tick(40);
+        x.register(0);
+        x.tick(4);
+        C.dueRow("TAKEN is lost then", i -> x.mobile(0, 5 + i), Checks.REGISTER, 1, 1);
     }
 
     /** "its tries become one more; at 5 the message is gone (it may press on)" */

@@ -8,8 +8,8 @@ public final class TrafficTest {
     public static void main(String[] args) {
         promise10SpeechIsNineteenBits();
         promise10SpeechComesToAllCells();
-        promise3SpeechIsMixedWithTheGroupsKey();
         promise3ListenersTakeTheirCallsKeyOff();
+        promise3TalkersPutTheirCallsKeyOn();
         promise13SpeechHasItsSlot();
         promise12LostSpeech();
         promise12ListenerLosesTheHighestBit();
@@ -35,6 +35,7 @@ public final class TrafficTest {
         return x;
     }
 
+    /** "the lowest 19 bits of speech" */
     private static void promise10SpeechIsNineteenBits() {
         int[][] told = {{0, 0}, {12345, 12345}, {SPEECH, SPEECH}, {1 << 19, 0}, {-1, SPEECH}, {(1 << 25) + 7, 7}};
         for (int[] pair : told) {
@@ -48,6 +49,7 @@ public final class TrafficTest {
         }
     }
 
+    /** "else it is sent on in all cells, in their colours" */
     private static void promise10SpeechComesToAllCells() {
         TrunkCells x = talking(5);
         x.speak(0, 1234);
@@ -60,18 +62,7 @@ public final class TrafficTest {
         C.due("from now on", x.mobile(1, 9), 77);
     }
 
-    private static void promise3SpeechIsMixedWithTheGroupsKey() {
-        for (int key : new int[] {0, 1, 77, -5, Integer.MIN_VALUE}) {
-            TrunkCells x = talking(key);
-            x.speak(0, 4242);
-            x.tick(1);
-            int mixed = Checks.mix(key, x.tick(0) / 4) & SPEECH;
-            x.fault(0, Checks.turning(4242 ^ mixed, 100));
-            x.tick(1);
-            C.due("the block on air was mixed with " + key, x.mobile(1, 9), 100 ^ mixed);
-        }
-    }
-
+    /** "with its call's group's key taken off again" */
     private static void promise3ListenersTakeTheirCallsKeyOff() {
         // Mobile 1 decodes a GRANT of group 3 on channel 1, and listens there with group 3's key.
         TrunkCells x = talking(7);
@@ -89,6 +80,24 @@ public final class TrafficTest {
         C.due("mobile 2", x.mobile(2, 9), 600);
     }
 
+    /** "(The mobile's group: that in whose call it is.)", whatever call is on its channel */
+    private static void promise3TalkersPutTheirCallsKeyOn() {
+        TrunkCells x = talking(7);
+        x.group(1, 8);
+        x.move(0, 0);
+        x.move(5, 0);
+        x.member(0, 2);
+        x.speak(0, 600);
+        x.press(0, 1, 0);
+        x.tick(4);
+        Checks.hears(x, 5, 0, Checks.block(Checks.GRANT, 0, 1, 1, 0));
+        C.dueRow("talks in group 1's call", i -> x.mobile(0, 1 + i), 1, 1, 1);
+        C.due("on the channel of group 2's", x.call(2, 0), 1);
+        int frame = x.tick(1) / 4;
+        C.due("heard in group 2's", x.mobile(1, 9), (600 ^ Checks.mix(7, frame) ^ Checks.mix(8, frame)) & SPEECH);
+    }
+
+    /** "In slot s 1 .. 3: if a mobile is talking on channel s" */
     private static void promise13SpeechHasItsSlot() {
         for (int group = 0; group < 3; group++) {
             TrunkCells x = Checks.withMobilesIn(0, 0, 0, 1);
@@ -114,6 +123,7 @@ public final class TrafficTest {
         }
     }
 
+    /** "If it is not lost", in the cell and in the mobile */
     private static void promise12LostSpeech() {
         TrunkCells x = talking(0);
         x.speak(0, 9);
@@ -133,6 +143,7 @@ public final class TrafficTest {
         C.due("other cells get nothing from it", x.mobile(1, 8), before1 + 1);
     }
 
+    /** "it has heard its lowest 19 bits" */
     private static void promise12ListenerLosesTheHighestBit() {
         TrunkCells x = talking(31);
         x.speak(0, 3);
@@ -144,6 +155,7 @@ public final class TrafficTest {
         C.due("it listens on", x.mobile(1, 1), 2);
     }
 
+    /** "if it presses for its call's group no more, and is IDLE then" */
     private static void promise8LettingGoEndsTheCall() {
         TrunkCells x = talking(0);
         x.tick(1);
@@ -162,6 +174,7 @@ public final class TrafficTest {
         C.dueRow("idle", i -> x.mobile(1, 1 + i), 0, NONE, NONE);
     }
 
+    /** "if it presses for its call's group no more": for none, or for another */
     private static void promise8LettingGoMayBeLost() {
         TrunkCells x = talking(0);
         x.tick(1);
@@ -187,6 +200,7 @@ public final class TrafficTest {
         C.due("pressing for it again is not", z.mobile(0, 1), 1);
     }
 
+    /** "If its row is empty ... Else the group is served." */
     private static void promise8LettingGoHandsOn() {
         TrunkCells x = talking(0);
         x.press(1, 2, 1);
@@ -203,6 +217,7 @@ public final class TrafficTest {
         C.due("heard by 0", x.mobile(0, 9), 321);
     }
 
+    /** "a highest bit 1: that call is RELEASED" */
     private static void promise13SpeechTurnedIntoLettingGo() {
         TrunkCells x = talking(0);
         x.tick(1);
@@ -216,6 +231,7 @@ public final class TrafficTest {
         C.due("until CEASE", x.mobile(0, 1), 0);
     }
 
+    /** "and a call is on channel s": if none is, nothing comes of it */
     private static void promise13TalkingWithoutACall() {
         TrunkCells x = talking(0);
         x.tick(1);
@@ -235,6 +251,7 @@ public final class TrafficTest {
         C.due("nothing more to say", x.saying(0, 0), NONE);
     }
 
+    /** "(of several the lowest number)" */
     private static void promise13LowestOfSeveralTalkers() {
         // Mobile 0 loses the GRANT that hands the floor to mobile 1, so both talk.
         TrunkCells x = talking(0);
