@@ -9,6 +9,7 @@ public final class SwitchTest {
         promise4OnlyMembersComeIntoTheRow();
         promise4GroupsAreFourBits();
         promise4CellsWithMembersAreTold();
+        promise4OneGrantACell();
         promise4NoMemberIsRegistered();
         promise7RequestNeedsRegistering();
         promise7NobodyIsInARowTwice();
@@ -132,6 +133,17 @@ public final class SwitchTest {
         x.tick(3);
         C.due("CEASE in cell 0", x.saying(0, 0), Checks.block(Checks.CEASE, 0, 3, 1, 0));
         C.due("no member in cell 2 any more", x.saying(2, 0), NONE);
+    }
+
+    /** "every cell in which a member is registered has GRANT to say": once, though there be several */
+    private static void promise4OneGrantACell() {
+        TrunkCells x = membersOfAll(2, 2, 2, 1, 1, 0, 0, 0);
+        // Cells 0 and 1 have had their turn when cell 2 gets this, and cell 2 says TAKEN first: none has said it yet.
+        x.press(0, 1, 0);
+        x.tick(1);
+        int grant = Checks.block(Checks.GRANT, 0, 1, 1, 0);
+        C.dueRow("to say in each cell", cell -> x.saying(cell, 0), grant, grant, grant);
+        C.dueRow("and no more", cell -> x.saying(cell, 1), NONE, NONE, NONE);
     }
 
     /** "every cell in which a member is registered": there may be none */

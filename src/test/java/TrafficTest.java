@@ -12,6 +12,7 @@ public final class TrafficTest {
         promise3TalkersPutTheirCallsKeyOn();
         promise13SpeechHasItsSlot();
         promise12LostSpeech();
+        promise12FaultOfTheTalkersCell();
         promise12ListenerLosesTheHighestBit();
         promise8LettingGoEndsTheCall();
         promise8LettingGoMayBeLost();
@@ -141,6 +142,23 @@ public final class TrafficTest {
         x.fault(1, Checks.ALL_PLACES);
         x.tick(4);
         C.due("other cells get nothing from it", x.mobile(1, 8), before1 + 1);
+    }
+
+    /** "Its cell gets that.": with that cell's fault, and no other's */
+    private static void promise12FaultOfTheTalkersCell() {
+        for (int cell = 0; cell < 3; cell++) {
+            for (int at = 0; at < 3; at++) {
+                TrunkCells x = Checks.withMobilesIn(cell, 1);
+                x.member(0, 1);
+                x.member(1, 1);
+                x.press(0, 0, 0);
+                x.tick(9);
+                int heard = x.mobile(1, 8);
+                x.fault(at, Checks.ALL_PLACES);
+                x.tick(4);
+                C.due("talker in " + cell + ", fault in " + at, x.mobile(1, 8), heard + (at == cell ? 0 : 1));
+            }
+        }
     }
 
     /** "it has heard its lowest 19 bits" */
