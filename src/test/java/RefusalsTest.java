@@ -398,9 +398,25 @@ public final class RefusalsTest {
 
     /** "IllegalStateException: it has 8." */
     private static void promise11DrawWhenItHasEight() {
-        for (int draw : new int[] {0, 9, 15}) {
+        for (int draw : new int[] {1, 9, 15}) {
             refused("draw(5, " + draw + ")", STATE, x -> x.draw(WITH_EIGHT_DRAWS, draw));
+            changesNothing("draw(5, " + draw + ")", STATE, x -> x.draw(WITH_EIGHT_DRAWS, draw),
+                    RefusalsTest::makeBusy, RefusalsTest::useAllDraws);
         }
+    }
+
+    private static int[] useAllDraws(TrunkCells x) {
+        int[] waits = new int[9];
+        Checks.toFrame(x);
+        for (int i = 0; i < 9; i++) {
+            x.move(WITH_EIGHT_DRAWS, 2);
+            x.register(WITH_EIGHT_DRAWS);
+            x.fault(2, Checks.ALL_PLACES);
+            x.tick(4);
+            waits[i] = x.mobile(WITH_EIGHT_DRAWS, 7);
+        }
+        C.dueRow("draws, then 1 without", i -> waits[i], 0, 2, 4, 6, 8, 10, 12, 14, 1);
+        return waits;
     }
 
     /** "a cell (0 .. 2) or mobile (3 .. 10: 0 .. 7)" */
